@@ -294,6 +294,16 @@ public final class PromisesTest {
         due("8 again", x.cut(0), 1);
         due("8 again", x.cut(0), 0);
         due("8 none", x.cut(0), NONE);
+        BlastFace y = new BlastFace();
+        y.hole(0, 0, 0, 1, 1, 0);
+        for (int i = 0; i < 40; i++) y.wire(-1, 0, i);
+        due("8 the last of all", y.cut(39), 39);
+        y.wire(-1, 0, 100);
+        due("8 the first of all", y.cut(0), 39);
+        due("8 the last of all moves up", y.wired(38, 2), 100);
+        due("8 in between", y.cut(20), 38);
+        due("8 ahead of it", y.wired(19, 2), 20);
+        due("8 behind it", y.wired(20, 2), 22);
     }
 
     /** Promise 9. */
@@ -351,6 +361,9 @@ public final class PromisesTest {
         due("11 what", x.time(0, -1), NONE);
         due("11 hole", x.time(5, 0), NONE);
         due("11 hole", x.time(-1, 1), NONE);
+        due("11 hole", x.time(-1, 0), NONE);
+        due("11 hole", x.time(20, 0), NONE);
+        due("11 hole", x.time(HIGH, 0), NONE);
         x.becomes(1, 6, 1);
         due("11 a DEAD HOLE has a SIGNAL", x.time(1, 0), 10);
         for (int i = 1; i < 4; i++) due("11 it does not FIRE", x.time(1, i), NONE);
@@ -402,6 +415,12 @@ public final class PromisesTest {
             relief(k, 100 + needs[k], 1);
             relief(k, 99 + needs[k], 0);
         }
+        BlastFace first = new BlastFace();
+        first.hole(0, 0, 0, 1, 1, 0);
+        first.hole(1, 0, 0, 1, 1, 2);
+        first.wire(-1, 0, 0);
+        first.wire(-1, 1, 0);
+        due("11 just as much behind time 0", first.time(1, 2), 1);
         BlastFace x = new BlastFace();
         x.hole(1, 4, 0, 9, 1, 50);
         x.wire(-1, 0, 0);
@@ -533,6 +552,15 @@ public final class PromisesTest {
         due("11 RING 9 at most", x.time(1, 3), 9);
         x.becomes(1, 6, 1);
         due("16 only those that FIRE", x.ring(9), 0);
+        BlastFace y = new BlastFace();
+        y.hole(0, 0, 0, 3, 1, 0);
+        y.hole(0, 1, 0, 3, 4, 0);
+        y.wire(-1, 0, 0);
+        y.wire(-1, 1, 0);
+        due("11 RING by a BURDEN of 1", y.time(0, 3), 3);
+        due("11 RING 0", y.time(1, 3), 0);
+        due("16 all of it in RING 0", y.ring(0), 1 + 16);
+        due("16 RING 1", y.ring(1), 1);
         due("16 k", x.ring(10), NO);
         due("16 k", x.ring(-2), NO);
         due("16 k", x.ring(LOW), NO);
@@ -547,6 +575,8 @@ public final class PromisesTest {
         x.becomes(2, 6, 1);
         int[] want = {1 + 2 + 8 + 64, 64, 4, 16 + 32, 2 + 4 + 8};
         for (int i = 0; i < 5; i++) due("17 sets(" + i + ")", x.sets(i), want[i]);
+        x.becomes(0, 6, 1);
+        due("17 two that are DEAD", x.sets(2), 1 + 4);
         due("17 what", x.sets(5), NONE);
         due("17 what", x.sets(-1), NONE);
         BlastFace y = new BlastFace();
@@ -706,9 +736,6 @@ public final class PromisesTest {
         late.hole(0, 0, 0, 5, 1, 0);
         late.hole(1, 0, 0, 5, 2, 0);
         late.wire(-1, 0, 500);
-        late.hole(0, 9, 5, 1, 1, 0);
-        late.wire(0, 2, 496);
-        late.cut(1);
         late.wire(-1, 1, 0);
         late.rule(2, 9);
         due("22 the first of 9s that is 504", late.plan(1), 504);
@@ -722,11 +749,89 @@ public final class PromisesTest {
         due("22 between and behind two SHOTS", deck.plan(1), 25);
         deck.rule(0, 7);
         due("22 a smaller WINDOW lets it between", deck.plan(1), 10);
+        planEnds();
+        deckPlans();
         deck.becomes(0, 3, 99);
         deck.becomes(1, 3, 51);
         due("22 50 and 51 are too much", deck.plan(1), 10);
         deck.becomes(1, 3, 50);
         due("22 50 and 50 are not", deck.plan(1), 0);
+    }
+
+    /** IN of a HOLE that needs relief TIMES from n on, its SIGNAL being 0. */
+    private static int planFrom(int n, int pace) {
+        BlastFace x = new BlastFace();
+        x.hole(4, 9, 0, 1, 1, 0);
+        x.hole(3, 9, 0, 1, 1, 0);
+        x.hole(2, 9, 0, 1, 1, 0);
+        x.hole(1, 9, 0, 1, 1, 0);
+        x.hole(0, 9, 0, 1, 1, 0);
+        int late = n - 8;
+        // two WIRES over a DUMMY, as one DELAY is 500 at most
+        x.hole(0, 0, 5, 1, 1, 0);
+        x.wire(-1, 5, late / 2);
+        x.wire(5, 4, late - late / 2);
+        // each 2 behind the one ahead, by SIGNALS alone
+        x.wire(4, 3, 2);
+        x.wire(3, 2, 2);
+        x.wire(2, 1, 2);
+        x.wire(-1, 0, 0);
+        x.rule(2, pace);
+        int in = x.plan(0);
+        due("23 all but it", x.planned(0), in == STATE ? 4 : 5);
+        due("23 greatest TIME", x.planned(1), in == STATE ? n - 2 : in);
+        return in;
+    }
+
+    private static void planEnds() {
+        due("22 999 is a multiple of 9", planFrom(999, 9), 999);
+        due("22 999 is a multiple of 27", planFrom(991, 27), 999);
+        due("22 1000 is too much", planFrom(1000, 9), STATE);
+        due("22 1000 is too much, by 5", planFrom(996, 5), STATE);
+        due("22 995, by 5", planFrom(995, 5), 995);
+        due("22 975, by 25", planFrom(975, 25), 975);
+        due("22 1000 is too much, by 25", planFrom(976, 25), STATE);
+    }
+
+    /** A DECK is planned behind a HOLE: both of its SHOTS count. */
+    private static int deckPlan(int in, int charge, int deck, int window) {
+        BlastFace x = new BlastFace();
+        x.hole(0, 0, 0, charge, 1, 0);
+        x.hole(0, 1, 2, deck, 1, 0);
+        x.hole(0, 9, 5, 1, 1, 0);
+        x.wire(-1, 0, in);
+        x.wire(-1, 1, 0);
+        x.rule(0, window);
+        x.rule(2, 5);
+        return x.plan(1);
+    }
+
+    private static void deckPlans() {
+        due("22 its second with one at its time", deckPlan(17, 80, 50, 1), 5);
+        due("22 its second, before one", deckPlan(18, 80, 50, 2), 5);
+        due("22 its second, before one, just outside", deckPlan(19, 80, 50, 2), 0);
+        due("22 its second, behind one", deckPlan(15, 80, 50, 3), 5);
+        due("22 its second, behind one, just outside", deckPlan(15, 80, 50, 2), 0);
+        due("22 its first, behind one", deckPlan(0, 80, 50, 5), 5);
+        due("22 its first, behind one", deckPlan(0, 80, 50, 6), 10);
+        due("22 its two in one WINDOW", deckPlan(500, 1, 99, 18), 0);
+        due("22 its two and one", deckPlan(18, 30, 80, 19), 20);
+        due("22 at LIMIT, its second", deckPlan(17, 75, 50, 1), 0);
+        due("22 at LIMIT, its second of 1", deckPlan(17, 99, 3, 1), 0);
+        due("22 above LIMIT, its second of 2", deckPlan(17, 99, 5, 1), 5);
+        BlastFace x = new BlastFace();
+        x.hole(0, 0, 2, 50, 1, 0);
+        x.wire(-1, 0, 0);
+        x.rule(1, 49);
+        x.rule(0, 17);
+        due("22 alone, each below LIMIT", x.plan(0), 0);
+        x.rule(0, 18);
+        due("22 alone, both above", x.plan(0), STATE);
+        x.rule(0, 1);
+        x.rule(1, 25);
+        due("22 alone, at LIMIT", x.plan(0), 0);
+        x.rule(1, 24);
+        due("22 alone, above", x.plan(0), STATE);
     }
 
     /** Promise 24. */
@@ -823,6 +928,14 @@ public final class PromisesTest {
         reads("window x", -107);
         reads("window -1", -107);
         reads("windows 9", -100);
+        reads("windowz 9", -100);
+        reads("awindow 9", -100);
+        reads("xindow 9", -100);
+        reads(" ".repeat(80), -180);
+        reads(" ".repeat(72) + "pace 99;", -180);
+        reads(" ".repeat(73) + "pace  9", 1);
+        reads(" ".repeat(73) + "windows", -173);
+        reads(" ".repeat(74) + "window", -180);
         reads("windo 9", -100);
         reads("Window 9", -100);
         reads("9", -100);
@@ -1079,6 +1192,11 @@ public final class PromisesTest {
         laid(x, 3, 2, 0, 3, 10, 20, 25, 37);
         due("35 all", x.judge(3, 2), NONE);
         due("35 another", x.judge(3, 0), 1);
+        x.drop();
+        due("35 beyond all, though it was so", x.judge(3, 2), 4);
+        x.put(3, 4, 37);
+        x.put(3, 5, 37);
+        due("35 beyond all", x.judge(3, 2), 5);
     }
 
     /** Promise 36. */
@@ -1144,7 +1262,11 @@ public final class PromisesTest {
         x.rule(2, 5);
         Check.text(x, "hole 4 5 hole 1 1 1");
         x.feed(32);
+        due("39 who FIRES now", x.sets(0), 0);
+        due("39 PLAN now", x.planned(0), 0);
+        due("39 PAPER now", x.spell() > paper.length() ? 1 : 0, 1);
         due("39 undo()", x.undo(), 5);
+        due("39 PLAN", x.planned(0), 3);
         check.holds("39 HOLES, WIRES", paper.equals(Check.paperOf(x)));
         due("39 DEAD", x.sets(2), 4);
         due("39 who FIRES", x.sets(0), 1 + 2 + 8);
