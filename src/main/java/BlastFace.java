@@ -17,9 +17,9 @@ public final class BlastFace {
     /** As many WIRES as have a bit in an int that is not its sign. */
     private static final int WIRE_BITS = 31;
 
-    /** What is kept of a HOLE, by the numbers that of() gives it; MADE stands behind these. */
-    private static final int ROW = 0, COLUMN = 1, KIND = 2, CHARGE = 3, BURDEN = 4, IN = 5, DEAD = 6, MADE = 7;
-    private static final int MARKS = 8;
+    /** What is kept of a HOLE, by the numbers that of() gives it; MADE and AHEAD stand behind these. */
+    private static final int ROW = 0, COLUMN = 1, KIND = 2, CHARGE = 3, BURDEN = 4, IN = 5, DEAD = 6;
+    private static final int MADE = 7, AHEAD = 8, MARKS = 9;
     private static final int[] LEAST_MARK = {0, 0, 0, 1, 1, 0, 0};
     private static final int[] MOST_MARK = {4, 9, 5, 99, 20, 999, 1};
 
@@ -74,7 +74,7 @@ public final class BlastFace {
             case 8: return now.rockOf(hole);
             case 9: return now.needsOf(hole);
             case 10: return now.mark(hole, MADE);
-            case 11: return now.aheadOf(hole);
+            case 11: return now.mark(hole, AHEAD);
             default: return NONE;
         }
     }
@@ -195,11 +195,11 @@ public final class BlastFace {
     }
 
     public int misfire(int hole, int what) {
-        return now.isHole(hole) ? harmTold(hole, NONE, what) : NONE;
+        return now.isHole(hole) && isHarm(what) ? harmTold(hole, NONE, what) : NONE;
     }
 
     public int broken(int wire, int what) {
-        return now.isWire(wire) ? harmTold(NONE, wire, what) : NONE;
+        return now.isWire(wire) && isHarm(what) ? harmTold(NONE, wire, what) : NONE;
     }
 
     public int critical(int what) {
@@ -390,7 +390,6 @@ public final class BlastFace {
 
     /** Reckons in thought what a DEAD HOLE more or a WIRE less makes of all; either may be NONE. */
     private void think(int hole, int wire) {
-        reckoned();
         thought.reckon(now.deadBits() | bitOf(hole), wire);
     }
 
@@ -402,8 +401,12 @@ public final class BlastFace {
         return thought.buried & ~real.buried;
     }
 
+    private static boolean isHarm(int what) {
+        return what >= 0 && what <= 3;
+    }
+
     private int harmTold(int hole, int wire, int what) {
-        if (what < 0 || what > 3) return NONE;
+        reckoned();
         think(hole, wire);
         if (what == 0) return lostBy(hole);
         if (what == 1) return bared();
@@ -412,6 +415,7 @@ public final class BlastFace {
     }
 
     private int mostHarmful(int size, boolean areHoles) {
+        reckoned();
         int best = NONE;
         int most = -1;
         for (int i = 0; i < size; i++) {
@@ -432,7 +436,7 @@ public final class BlastFace {
     }
 
     private static boolean hasBit(int bits, int hole) {
-        return (bits & bitOf(hole)) != 0;
+        return hole >= 0 && hole < MOST_HOLES && (bits >> hole & 1) != 0;
     }
 
     /** The least whole number whose square is v or more. */
@@ -471,7 +475,7 @@ public final class BlastFace {
                 case SLIM: return charge / 2 + 1;
                 case DECK: return (charge + 1) / 2;
                 case HEAVY: return (charge + 1) / 2 * 2;
-                case BUFFER: return Math.min(charge / 2 + 1, MOST_BUFFER);
+                case BUFFER: return charge / 2 + 1 < MOST_BUFFER ? charge / 2 + 1 : MOST_BUFFER;
                 default: return 0;
             }
         }
@@ -581,8 +585,23 @@ public final class BlastFace {
             marks[at + IN] = in;
             marks[at + DEAD] = 0;
             marks[at + MADE] = Kind.made(row, kind, burden);
+            marks[at + AHEAD] = 0;
+            markAhead(holes);
             holes++;
             return holes - 1;
+        }
+
+        /** Of a new HOLE who is AHEAD, and that it is AHEAD of others: no place and no KIND changes later. */
+        private void markAhead(int hole) {
+            for (int h = 0; h < hole; h++) {
+                if (isAhead(h, hole)) marks[hole * MARKS + AHEAD] |= bitOf(h);
+                if (isAhead(hole, h)) marks[h * MARKS + AHEAD] |= bitOf(hole);
+            }
+        }
+
+        private boolean isAhead(int hole, int behind) {
+            boolean isOneRowLess = mark(hole, ROW) == mark(behind, ROW) - 1;
+            return isOneRowLess && columnsOff(hole, behind) <= 1 && mark(hole, KIND) != Kind.DUMMY;
         }
 
         int changeMark(int hole, int what, int v) {
@@ -617,6 +636,7 @@ public final class BlastFace {
         int removeLastHole() {
             if (holes == 0) return STATE;
             holes--;
+            for (int h = 0; h < holes; h++) marks[h * MARKS + AHEAD] &= ~bitOf(holes);
             // from behind, as those behind a WIRE that goes get other numbers
             for (int w = wires - 1; w >= 0; w--) {
                 if (cord(w, FROM) == holes || cord(w, TO) == holes) removeWire(w);
@@ -647,15 +667,6 @@ public final class BlastFace {
             return bits;
         }
 
-        int aheadOf(int hole) {
-            int bits = 0;
-            for (int h = 0; h < holes; h++) {
-                boolean isAhead = mark(h, ROW) == mark(hole, ROW) - 1 && columnsOff(h, hole) <= 1;
-                if (isAhead && mark(h, KIND) != Kind.DUMMY) bits |= bitOf(h);
-            }
-            return bits;
-        }
-
         boolean areNear(int hole, int other) {
             return Math.abs(mark(hole, ROW) - mark(other, ROW)) <= 1 && columnsOff(hole, other) <= 1;
         }
@@ -676,6 +687,10 @@ public final class BlastFace {
             return firstLoadOf(hole) + secondLoadOf(hole);
         }
 
+        boolean hasShots(int hole) {
+            return mark(hole, KIND) != Kind.DUMMY;
+        }
+
         int rockOf(int hole) {
             return Kind.rock(mark(hole, KIND), mark(hole, BURDEN));
         }
@@ -687,13 +702,13 @@ public final class BlastFace {
         /** The least TIME that gives a HOLE RELIEF, if just these bits FIRE, at these times; NONE: none does. */
         int reliefOf(int hole, int firing, int[] times) {
             if (mark(hole, ROW) == 0) return 0;
-            int ahead = aheadOf(hole);
+            int ahead = mark(hole, AHEAD);
             if (ahead == 0 || (ahead & ~firing) != 0) return NONE;
             int latest = 0;
             for (int h = 0; h < holes; h++) {
                 if (hasBit(ahead, h)) latest = Math.max(latest, times[h]);
             }
-            return latest + needsOf(hole);
+            return latest + Kind.needs(mark(hole, KIND), mark(hole, BURDEN));
         }
     }
 
@@ -816,17 +831,14 @@ public final class BlastFace {
             for (int round = 0; round < pattern.holes && isBetter; round++) {
                 isBetter = false;
                 for (int w = 0; w < pattern.wires; w++) {
-                    if (w != goneWire && bringSignal(w)) isBetter = true;
+                    int to = pattern.cord(w, TO);
+                    int end = w == goneWire ? NONE : endOf(w);
+                    if (end != NONE && (signals[to] == NONE || signals[to] > end)) {
+                        signals[to] = end;
+                        isBetter = true;
+                    }
                 }
             }
-        }
-
-        private boolean bringSignal(int wire) {
-            int end = endOf(wire);
-            int to = pattern.cord(wire, TO);
-            if (end == NONE || signals[to] != NONE && signals[to] <= end) return false;
-            signals[to] = end;
-            return true;
         }
 
         /** When a WIRE ENDS; NONE. */
@@ -841,7 +853,7 @@ public final class BlastFace {
         private void findFiring() {
             firing = 0;
             for (int h = 0; h < pattern.holes; h++) {
-                boolean fires = signals[h] != NONE && !hasBit(dead, h) && pattern.loadsOf(h) > 0;
+                boolean fires = signals[h] != NONE && !hasBit(dead, h) && pattern.hasShots(h);
                 times[h] = fires ? signals[h] + pattern.mark(h, IN) : NONE;
                 if (fires) firing |= bitOf(h);
             }
@@ -850,13 +862,10 @@ public final class BlastFace {
         private void findBuried() {
             buried = 0;
             for (int h = 0; h < pattern.holes; h++) {
-                if (doesFire(h) && !hasRelief(h)) buried |= bitOf(h);
+                if (!doesFire(h)) continue;
+                int relief = pattern.reliefOf(h, firing, times);
+                if (relief == NONE || times[h] < relief) buried |= bitOf(h);
             }
-        }
-
-        private boolean hasRelief(int hole) {
-            int relief = pattern.reliefOf(hole, firing, times);
-            return relief != NONE && times[hole] >= relief;
         }
 
         boolean doesFire(int hole) {
@@ -942,6 +951,9 @@ public final class BlastFace {
         final int[] times = new int[MOST_HOLES];
         final Shots shots = new Shots();
         int settledHoles;
+        /** LOADS of the HOLE that is being planned. */
+        private int first;
+        private int second;
 
         Planner(Pattern pattern, Blast blast) {
             this.pattern = pattern;
@@ -965,10 +977,12 @@ public final class BlastFace {
         private void settle(int hole) {
             int relief = pattern.reliefOf(hole, settledHoles, times);
             if (relief == NONE) return;
+            first = pattern.firstLoadOf(hole);
+            second = pattern.secondLoadOf(hole);
             int pace = Math.max(pattern.rules[PACE], 1);
             for (int in = 0; in <= MOST_IN; in += pace) {
                 int at = blast.signals[hole] + in;
-                if (at >= relief && isQuiet(hole, at)) {
+                if (at >= relief && isQuiet(at)) {
                     ins[hole] = in;
                     times[hole] = at;
                     settledHoles |= bitOf(hole);
@@ -978,25 +992,25 @@ public final class BlastFace {
             }
         }
 
-        /** Looks only at windows that can hold SHOTS of this HOLE: the others shake as they did without it. */
-        private boolean isQuiet(int hole, int at) {
+        /** Looks only at windows that can hold SHOTS of the HOLE: the others shake as they did without it. */
+        private boolean isQuiet(int at) {
             int limit = pattern.rules[LIMIT];
-            int second = at + DECK_GAP;
-            if (shakeWith(hole, at, at) > limit) return false;
-            if (pattern.secondLoadOf(hole) > 0 && shakeWith(hole, at, second) > limit) return false;
-            for (int i = 0; i < shots.size && shots.times[i] <= second; i++) {
+            int last = at + DECK_GAP;
+            if (shakeWith(at, at) > limit) return false;
+            if (second > 0 && shakeWith(at, last) > limit) return false;
+            for (int i = 0; i < shots.size && shots.times[i] <= last; i++) {
                 int start = shots.times[i];
-                if (start > at - pattern.rules[WINDOW] && shakeWith(hole, at, start) > limit) return false;
+                if (start > at - pattern.rules[WINDOW] && shakeWith(at, start) > limit) return false;
             }
             return true;
         }
 
-        /** SHAKE at start of those planned and of this HOLE's SHOTS, its TIME being at. */
-        private int shakeWith(int hole, int at, int start) {
+        /** SHAKE at start of those planned and of the HOLE that is being planned, its TIME being at. */
+        private int shakeWith(int at, int start) {
             int end = start + pattern.rules[WINDOW];
             int sum = shots.shakeAt(start, pattern.rules[WINDOW]);
-            if (at >= start && at < end) sum += pattern.firstLoadOf(hole);
-            if (at + DECK_GAP >= start && at + DECK_GAP < end) sum += pattern.secondLoadOf(hole);
+            if (at >= start && at < end) sum += first;
+            if (at + DECK_GAP >= start && at + DECK_GAP < end) sum += second;
             return sum;
         }
 
