@@ -2,7 +2,7 @@ import java.util.Random;
 
 /** Long runs of calls drawn from fixed seeds, each answer compared with the Model's. */
 public final class ModelTest {
-    private static final int RUNS = 400, CALLS = 512;
+    private static final int RUNS = 300, CALLS = 512;
     private static final int[] STRANGE = {-1, -2, 0, 1, 99, 100, 1000, Integer.MAX_VALUE, Integer.MIN_VALUE, Integer.MAX_VALUE - 1};
     private static final String[] WORDS = {"hole", "wire", "window", "limit", "pace", "dead", "start", "slim", "deck",
         "heavy", "buffer", "dummy", "hol", "holes", "x", ";", ";", "?", " ", "0", "1", "2", "12345", "0007", "Hole", "-1"};
@@ -28,10 +28,12 @@ public final class ModelTest {
     private void go() {
         int calls = 0;
         boolean wild = random.nextInt(4) == 0;
-        int holes = random.nextInt(21);
-        for (int i = 0; i < holes; i++, calls++) newHole(5 - random.nextInt(3));
-        int wires = random.nextInt(holes * 3 + 1);
-        for (int i = 0; i < wires && i < 45; i++, calls++) newWire();
+        boolean full = random.nextInt(5) == 0;
+        int holes = full ? 20 : random.nextInt(21);
+        for (int i = 0; i < (full ? 80 : holes) && m.count(0) < holes; i++, calls++) newHole(5 - random.nextInt(3));
+        int wires = full ? 40 : Math.min(40, random.nextInt(holes * 3 + 1));
+        for (int i = 0; i < (full ? 80 : wires) && m.count(1) < wires; i++, calls++) newWire();
+        if (full) calls += asksAll();
         if (random.nextInt(3) > 0) {
             int window = 1 + random.nextInt(99);
             due("rule", x.rule(0, window), m.rule(0, window));
@@ -40,6 +42,25 @@ public final class ModelTest {
             calls += 2;
         }
         while (calls < CALLS - 90 && check.isClean()) calls += wild ? call(random.nextInt(42)) : usualCall();
+    }
+
+    /** All that can be asked in short, as a full pattern is where a row may be too small. */
+    private int asksAll() {
+        for (int i = 0; i < 5; i++) due("sets(" + i + ")", x.sets(i), m.sets(i));
+        for (int i = 0; i < 4; i++) due("worst(" + i + ")", x.worst(i), m.worst(i));
+        for (int i = 0; i < 2; i++) due("critical(" + i + ")", x.critical(i), m.critical(i));
+        for (int i = 0; i < 3; i++) due("planned(" + i + ")", x.planned(i), m.planned(i));
+        for (int i = 0; i < 20; i++) due("plan(" + i + ")", x.plan(i), m.plan(i));
+        due("ring(-1)", x.ring(-1), m.ring(-1));
+        due("list", x.list(0, 40), m.list(0, 40));
+        for (int i = 0; i < 3; i++) due("fill(0, " + i + ")", x.fill(0, i), m.fill(0, i));
+        due("judge(0, 2)", x.judge(0, 2), m.judge(0, 2));
+        due("spell()", x.spell(), m.spell());
+        due("image()", x.image(), m.image());
+        due("adopt()", x.adopt(), m.adopt());
+        for (int i = 0; i < 41; i++) due("step()", x.step(), m.step());
+        due("undo()", x.undo(), m.undo());
+        return 88;
     }
 
     /** Calls that change little, so that a pattern stands for a while. */
