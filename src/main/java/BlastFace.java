@@ -724,9 +724,6 @@ public final class BlastFace {
 
         void clear() {
             size = 0;
-            greatest = 0;
-            greatestAt = NONE;
-            over = 0;
         }
 
         /** The SHOTS of a HOLE whose TIME is this. */
@@ -757,6 +754,7 @@ public final class BlastFace {
             return sum;
         }
 
+        /** WORST, its time and OVER, as soon as all SHOTS are there. */
         void weigh(int window, int limit) {
             greatest = 0;
             greatestAt = NONE;

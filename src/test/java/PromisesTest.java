@@ -833,6 +833,14 @@ public final class PromisesTest {
         due("22 at LIMIT, its second", deckPlan(17, 75, 50, 1), 0);
         due("22 at LIMIT, its second of 1", deckPlan(17, 99, 3, 1), 0);
         due("22 above LIMIT, its second of 2", deckPlan(17, 99, 5, 1), 5);
+        BlastFace y = new BlastFace();
+        y.hole(0, 0, 0, 99, 1, 0);
+        y.hole(0, 1, 2, 3, 1, 0);
+        y.wire(-1, 0, 18);
+        y.wire(-1, 1, 0);
+        y.rule(0, 2);
+        y.rule(1, 99);
+        due("22 its second of 1 begins the WINDOW that shakes too much", y.plan(1), 25);
         BlastFace x = new BlastFace();
         x.hole(0, 0, 2, 50, 1, 0);
         x.wire(-1, 0, 0);
