@@ -159,8 +159,8 @@ final class Model {
             return was;
         }
 
-        /** From all ways without a circle, walked one by one where few, by Floyd's sums else. */
-        int signal(int hole) {
+        /** Of all HOLES, by Floyd's sums. */
+        int[] signals() {
             int n = holes.size();
             long[][] d = new long[n + 1][n + 1];
             for (long[] row : d) Arrays.fill(row, Integer.MAX_VALUE);
@@ -172,14 +172,19 @@ final class Model {
             for (int k = 0; k < n; k++)
                 for (int i = 0; i <= n; i++)
                     for (int j = 0; j <= n; j++) d[i][j] = Math.min(d[i][j], d[i][k] + d[k][j]);
-            return d[n][hole] >= Integer.MAX_VALUE ? NONE : (int) d[n][hole];
+            int[] all = new int[n];
+            for (int i = 0; i < n; i++) all[i] = d[n][i] >= Integer.MAX_VALUE ? NONE : (int) d[n][i];
+            return all;
         }
+
+        int signal(int hole) { return signals()[hole]; }
 
         int[] times() {
             int[] t = new int[holes.size()];
+            int[] signals = signals();
             for (int i = 0; i < t.length; i++) {
                 Hole h = holes.get(i);
-                int s = h.dead || h.parts().length == 0 ? NONE : signal(i);
+                int s = h.dead || h.parts().length == 0 ? NONE : signals[i];
                 t[i] = s == NONE ? NONE : s + h.in;
             }
             return t;
