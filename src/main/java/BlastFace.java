@@ -831,7 +831,7 @@ public final class BlastFace {
                 for (int w = 0; w < pattern.wires; w++) {
                     int to = pattern.cord(w, TO);
                     int end = w == goneWire ? NONE : endOf(w);
-                    if (end != NONE && (signals[to] == NONE || signals[to] > end)) {
+                    if (end != NONE && pattern.isHole(to) && (signals[to] == NONE || signals[to] > end)) {
                         signals[to] = end;
                         isBetter = true;
                     }
@@ -844,7 +844,7 @@ public final class BlastFace {
             int from = pattern.cord(wire, FROM);
             int delay = pattern.cord(wire, DELAY);
             if (from == STARTER) return delay;
-            if (hasBit(dead, from) || signals[from] == NONE) return NONE;
+            if (!pattern.isHole(from) || hasBit(dead, from) || signals[from] == NONE) return NONE;
             return signals[from] + delay;
         }
 
